@@ -11,13 +11,23 @@ final class Checks {
 
     private int passed = 0;
     private int wrong = 0;
+    private String about = "";
+
+    /** What is compared from here on is told under this name, where it differs. */
+    void begin(String name) {
+        about = name + "\n    ";
+    }
+
+    int made() {
+        return passed + wrong;
+    }
 
     void due(String call, long got, long want) {
         if (got == want) {
             passed++;
         } else {
             wrong++;
-            System.out.println(call + " answered " + got + ", due is " + want);
+            System.out.println(about + call + " answered " + got + ", due is " + want);
         }
     }
 
@@ -32,7 +42,7 @@ final class Checks {
             passed++;
         } else {
             wrong++;
-            System.out.println(call + " threw " + got + ", due is " + want);
+            System.out.println(about + call + " threw " + got + ", due is " + want);
         }
     }
 

@@ -99,10 +99,12 @@ public final class ModelTest {
             }
             case 1 -> checks.due(call + "samples", one.samples(), model.samples());
             case 2 -> {
-                for (int i = 0; i < model.samples(); i++) {
-                    checks.due(call + "sample " + i, one.sample(i), model.sample(i));
+                int sample = below(model.samples() + 1);
+                if (sample < model.samples()) {
+                    checks.due(call + "sample " + sample, one.sample(sample), model.sample(sample));
+                } else {
+                    checks.dueThrow(call + "sample beyond", Checks.INDEX, () -> one.sample(sample));
                 }
-                checks.dueThrow(call + "sample beyond", Checks.INDEX, () -> one.sample(model.samples()));
             }
             case 3 -> checks.due(call + "count", one.count(x, y), model.count(cell));
             case 4 -> checks.due(call + "belief " + cell, one.belief(x, y), model.belief(cell));
