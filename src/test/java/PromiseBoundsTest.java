@@ -805,6 +805,10 @@ public final class PromiseBoundsTest {
         }
         dueSame("told 300 times", full);
         dueSame("told 300 times, asked again", full);
+        Particleway last = toldSoOften(299);
+        checks.holds("much is believed", last.beliefAnew(0, 0) > 1);
+        last.read(0, 7);
+        checks.due("also the last of 300 is done once more", last.beliefAnew(0, 0), 1);
         full.spread(8);
         dueSame("spread again", full);
         full.drive(2);
@@ -899,6 +903,13 @@ public final class PromiseBoundsTest {
         int[] due = {31, 26, 27, 28, 29, 30, 25, 24};
         for (int place = 0; place < due.length; place++) {
             checks.due("place " + place, row.best(place), due[place]);
+        }
+        Particleway one = Fields.spreadOut(new Particleway(), 8);
+        one.drive(1);
+        for (int place = 0; place < 64; place++) {
+            // 30 in the lowest row, then 16 in five, 15, and 3 in the uppermost.
+            int y = place < 8 ? 7 : place < 48 ? place / 8 + 1 : place < 56 ? 1 : 0;
+            checks.due("place " + place + " of 64", one.best(place), 8 * y + place % 8);
         }
     }
 

@@ -357,7 +357,9 @@ public final class TermBoundsTest {
             one.drive(i % 2);
             one.read(0, i % 5);
         }
+        one.drive(0);
         checks.holds("there is a doubt", one.doubt() > 0);
+        checks.due("a belief of 3 times 1", one.belief(0, 0), 3);
         one.draw(77);
         other.draw(77);
         one.spread(9);
@@ -520,6 +522,9 @@ public final class TermBoundsTest {
             checks.due("W of " + cells[i] + " cells", one.read(0, 0), 512);
             checks.due("samples anew of " + cells[i] + " cells", one.samples(), due[i]);
         }
+        Particleway highest = Fields.spreadOut(Fields.only(63), 64);
+        highest.read(0, 0);
+        checks.due("samples anew of the highest cell", highest.samples(), 12);
         Particleway none = Fields.spreadOut(Fields.pair(), 64);
         none.read(0, 7);
         checks.due("samples anew of no cell", none.samples(), 8);
@@ -646,6 +651,15 @@ public final class TermBoundsTest {
         checks.due("the last but one, below 56", firstOrLast(23, 10, 15), 1);
         checks.due("the last, from 56", firstOrLast(23, 11, 15), 0);
         checks.due("the last, below 59", firstOrLast(23, 58, 15), 0);
+        Particleway most = Fields.pair();
+        most.draw(2);
+        most.spread(64);
+        checks.due("the first of 64", most.sample(0), 0);
+        checks.due("the last of 64", most.sample(63), 1);
+        int w = 3 * most.count(0, 0) + 8 * most.count(1, 0);
+        Fields.setDraw(most, 1, w - 1);
+        checks.due("W of 64", most.read(0, 0), w);
+        checks.due("the last of 64, below W", most.sample(15), 1);
         // Of 64 samples but 12 are left: those behind them are none any more.
         Particleway fewer = Fields.spreadOut(Fields.single(), 64);
         fewer.read(0, 0);
@@ -762,6 +776,28 @@ public final class TermBoundsTest {
         dueBeliefs("halved three times", read, MOST_BELIEVED);
         read.read(0, 1);
         dueBeliefs("halved twice", read, 3 * MOST_BELIEVED / 4);
+        Particleway two = Fields.spreadOut(Fields.only(0, 2), 8);
+        for (int i = 0; i < 10; i++) {
+            two.drive(0);
+        }
+        dueBeliefs("the most twice, not in sum", two, MOST_BELIEVED, 0, MOST_BELIEVED);
+        Particleway above = oneAboveTheMost();
+        checks.due("halved if it is above by 1", above.belief(2, 7), MOST_BELIEVED / 2);
+        checks.due("halved anew if it is above by 1", above.beliefAnew(2, 7), MOST_BELIEVED / 2);
+        checks.due("the least of 3, halved", above.belief(0, 7), 1);
+        checks.due("one of 12, halved", above.belief(1, 7), 6);
+    }
+
+    /** The cells 56 and 58 alone keep a belief: of 1, and of 2 to the 36th; then 58 gets 16 times its own, and 1. */
+    private static Particleway oneAboveTheMost() {
+        Particleway one = Fields.only(16, 24, 32, 40, 48, 56, 57, 58, 50, 42, 34, 26, 18);
+        one.spread(8);
+        one.read(3, 7);
+        for (int i = 0; i < 12; i++) {
+            one.read(0, 0);
+        }
+        one.drive(0);
+        return one;
     }
 
     private void halvedBehindBoth() {
