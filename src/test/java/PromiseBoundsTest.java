@@ -786,7 +786,7 @@ public final class PromiseBoundsTest {
     private void sameAnew() {
         Particleway one = Fields.spreadOut(Fields.pair(), 8);
         dueSame("nothing told", one);
-        for (int i = 1; i <= 100; i++) {
+        for (int i = 1; i <= 36; i++) {
             if (i % 10 == 5) {
                 one.read(0, 7);
                 checks.due("begun again", one.beliefAnew(0, 0), 1);
