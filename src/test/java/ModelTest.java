@@ -1,4 +1,4 @@
-/** Long runs of calls, their arguments by a fixed row of numbers, beside the slow model. */
+/** Long runs of calls, wrong ones among them, their arguments by a fixed row of numbers, beside the slow model. */
 public final class ModelTest {
     private static final int RUNS = 120;
 
@@ -34,10 +34,13 @@ public final class ModelTest {
         int asking = run % 5 == 0 ? 4 : 2;
         while (calls < 512) {
             calls++;
-            if (below(asking) == 0) {
+            String call = "run " + run + ", call " + calls + ": ";
+            if (below(12) == 0) {
+                callWrongly(call);
+            } else if (below(asking) == 0) {
                 tell(straying);
             } else {
-                ask("run " + run + ", call " + calls + ": ");
+                ask(call);
             }
         }
     }
@@ -83,6 +86,27 @@ public final class ModelTest {
             int reading = below(straying) == 0 ? below(8) : Math.max(0, model.toRead(model.mode(true), direction));
             checks.due("read " + direction + " " + reading,
                     one.read(direction, reading), model.read(direction, reading));
+        }
+    }
+
+    /** The model is not told of it: a call that throws changes nothing. */
+    private void callWrongly(String call) {
+        boolean isLow = below(2) == 0;
+        int direction = isLow ? -1 : 4;
+        int outside = isLow ? -1 : 8;
+        int within = below(8);
+        switch (below(10)) {
+            case 0 -> checks.dueThrow(call + "wall", Checks.STATE, () -> one.wall(within, within, isLow));
+            case 1 -> checks.dueThrow(call + "draw", Checks.ARGUMENT, () -> one.draw(isLow ? 0 : 65537));
+            case 2 -> checks.dueThrow(call + "spread", Checks.ARGUMENT, () -> one.spread(isLow ? 7 : 65));
+            case 3 -> checks.dueThrow(call + "drive", Checks.INDEX, () -> one.drive(direction));
+            case 4 -> checks.dueThrow(call + "read " + direction, Checks.INDEX, () -> one.read(direction, within));
+            case 5 -> checks.dueThrow(call + "read, " + outside, Checks.ARGUMENT, () -> one.read(0, outside));
+            case 6 -> checks.dueThrow(call + "count", Checks.INDEX, () -> one.count(outside, within));
+            case 7 -> checks.dueThrow(call + "beliefAnew", Checks.INDEX, () -> one.beliefAnew(within, outside));
+            case 8 -> checks.dueThrow(call + "share", Checks.ARGUMENT,
+                    () -> one.share(within, 0, isLow ? within - 1 : 8, 7, true));
+            default -> checks.dueThrow(call + "best", Checks.INDEX, () -> one.best(-1));
         }
     }
 
